@@ -1,0 +1,38 @@
+/** Counts the answers that are not as due, prints each, and ends the test with 1 if there was one. */
+final class Check {
+    private static final int MOST_PRINTED = 40;
+
+    private final String test;
+    private int asked;
+    private int wrong;
+
+    Check(String test) {
+        this.test = test;
+    }
+
+    void due(String call, int got, int want) {
+        asked++;
+        if (got == want) {
+            return;
+        }
+        wrong++;
+        if (wrong <= MOST_PRINTED) {
+            System.out.println(test + ": " + call + " answered " + got + ", due is " + want);
+        }
+    }
+
+    void holds(String what, boolean is) {
+        due(what, is ? 1 : 0, 1);
+    }
+
+    boolean hasFailed() {
+        return wrong != 0;
+    }
+
+    void end() {
+        System.out.println(test + ": " + asked + " answers, " + wrong + " not as due");
+        if (wrong != 0) {
+            System.exit(1);
+        }
+    }
+}
