@@ -19,6 +19,7 @@ public final class RunsTest {
         promise7RingWithoutPromise();
         promise8Not();
         promise8LetGo();
+        promise8AllOfOnePart();
         promise9Finish();
         promise9Limit();
         promise9LimitBehindStill();
@@ -303,6 +304,19 @@ public final class RunsTest {
         due("2 may work on 6 now", x.letGo(), NOT);
         due("run(1)", x.run(1), 1);
         due("the next round has number 1", x.record(3, 3), 1);
+    }
+
+    private static void promise8AllOfOnePart() {
+        SafeParts x = new SafeParts();
+        x.parts(2);
+        x.channel(0, 1, 0, 1);
+        for (int k = 0; k < 30; k++) {
+            x.event(1, 5, k);
+        }
+        due("T", x.letGo(), 5);
+        due("all 30 were worked on", x.told(4), 30);
+        due("in one round", x.record(29, 3), 0);
+        due("none waits", x.told(3), 0);
     }
 
     private static void promise9Finish() {

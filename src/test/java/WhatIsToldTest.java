@@ -20,6 +20,7 @@ public final class WhatIsToldTest {
         promise16Waits();
         promise17InOrder();
         promise17InOrderFirst300();
+        promise17InOrderLastOfLikeTimes();
         promise17SameAsFinish();
         CHECK.end();
     }
@@ -211,6 +212,13 @@ public final class WhatIsToldTest {
         for (int p : new int[] {MIN, -1, 6, MAX}) {
             due("ring(" + p + ")", x.ring(p), UNKNOWN);
         }
+        x.parts(6);
+        for (int p = 5; p >= 0; p--) {
+            x.channel(p, (p + 1) % 6, 1 + p, 9);
+        }
+        for (int p = 0; p < 6; p++) {
+            due("all round against the numbers from " + p, x.ring(p), 21);
+        }
     }
 
     private static void promise16Waits() {
@@ -292,6 +300,21 @@ public final class WhatIsToldTest {
         x.run(1);
         x.letGo();
         due("300 from now on", x.inOrder(1, 0), 151);
+    }
+
+    /** 299 EVENTS, then two of one time: only that of the least PART comes. */
+    private static void promise17InOrderLastOfLikeTimes() {
+        SafeParts x = new SafeParts();
+        x.parts(4);
+        x.channel(0, 1, 0, 1);
+        x.channel(1, 0, 0, 1);
+        x.event(0, 0, 99);
+        x.event(0, 3000, 99);
+        x.event(0, 6000, 98);
+        x.event(3, 9000, 0);
+        x.event(2, 9000, 0);
+        due("of part 2", x.inOrder(2, 0), 1);
+        due("of part 3", x.inOrder(3, 0), 0);
     }
 
     private static void promise17SameAsFinish() {
