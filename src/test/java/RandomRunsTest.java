@@ -27,8 +27,11 @@ public final class RandomRunsTest {
         Model model = new Model();
         int times = 1 + random.nextInt(200);
         int promises = random.nextInt(30);
+        int channelsFirst = 0;
         for (int k = 0; k < CALLS && !check.hasFailed(); k++) {
-            int which = k == 0 ? 0 : pick(random);
+            int which = k == 0 ? 0 : channelsFirst > 0 ? 1 : pick(random);
+            // No CHANNEL comes behind a ROUND, so many are tried as soon as there are PARTS.
+            channelsFirst = which == 0 ? random.nextInt(50) : channelsFirst - 1;
             int[] a = arguments(random, which, times, promises);
             check.due("seed " + seed + ", call " + k + ": " + text(which, a), call(x, which, a), model.call(which, a));
         }
