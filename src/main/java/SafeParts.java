@@ -80,7 +80,7 @@ public final class SafeParts {
         if (isOutside(promise, 0, MOST_PROMISE) || isOutside(delay, 1, MOST_DELAY) || delay < promise) {
             return OUTSIDE;
         }
-        if (world.channels.find(from, to) != NONE || world.rounds > 0) {
+        if (world.channels.find(from, to) != NONE || world.roundsAndLetGo() > 0) {
             return NOT;
         }
         if (world.channels.size >= MOST_CHANNELS) {
@@ -386,14 +386,13 @@ public final class SafeParts {
             }
         }
         world.channels.raiseClocks(time + 1);
-        world.rounds++;
         world.timesLetGo++;
         return time;
     }
 
     private void workAndWriteDown(int p) {
         Waiting events = world.waiting[p];
-        log.add(p, events.firstTime(), events.firstValue(), world.rounds);
+        log.add(p, events.firstTime(), events.firstValue(), world.roundsAndLetGo());
         world.workOnFirst(p);
     }
 
@@ -468,6 +467,11 @@ public final class SafeParts {
             rounds = other.rounds;
             timesLetGo = other.timesLetGo;
             toldByHand = other.toldByHand;
+        }
+
+        /** In THE RECORD LET GO counts as a ROUND; what is told as ROUNDS is without it. */
+        int roundsAndLetGo() {
+            return rounds + timesLetGo;
         }
 
         int eventsThatWait() {

@@ -92,7 +92,8 @@ public final class ImagesTest {
         x.run(3);
         int[] kept = allBut(x);
         int entries = x.told(10);
-        int rounds = x.told(6);
+        int roundsAndLetGo = x.told(6) + x.told(7);
+        due("it was LET GO", x.told(7), 1);
         due("keep(1)", x.keep(1), 1);
         x.form(0);
         x.event(2, 900, 5);
@@ -108,7 +109,7 @@ public final class ImagesTest {
         int again = x.run(1);
         CHECK.holds("the same is worked on again", again > 0);
         due("the record goes on", x.told(10), entries + more + again);
-        due("with the round that is so now", x.record(entries + more, 3), rounds);
+        due("with the round that is so now", x.record(entries + more, 3), roundsAndLetGo);
     }
 
     private static void promise19OrderOfWhatWaits() {

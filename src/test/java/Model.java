@@ -203,7 +203,7 @@ final class Model {
     }
 
     private void workHere(Event e) {
-        if (entries.size() < 200) entries.add(new Entry(e.part, e.time, e.value, s.rounds));
+        if (entries.size() < 200) entries.add(new Entry(e.part, e.time, e.value, s.rounds + s.letGos));
         work(s, e);
     }
 
@@ -267,7 +267,6 @@ final class Model {
         for (int c = 0; c < s.channels.size(); c++) {
             if (s.clock[c] < t + 1) s.clock[c] = t + 1;
         }
-        s.rounds++;
         s.letGos++;
         return t;
     }

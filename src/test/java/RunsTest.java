@@ -294,7 +294,7 @@ public final class RunsTest {
         due("the letter's clock stays", x.channelOf(1, 4), 12);
         due("no clock below 6", x.channelOf(2, 4), 6);
         due("once", x.told(7), 1);
-        due("it counts as a round", x.told(6), 1);
+        due("it is no ROUND that is told", x.told(6), 0);
         int[][] rows = {{1, 5, 3, 0}, {1, 5, 0, 0}, {2, 5, 0, 0}};
         for (int k = 0; k < rows.length; k++) {
             for (int what = 0; what < 4; what++) {
@@ -303,7 +303,8 @@ public final class RunsTest {
         }
         due("2 may work on 6 now", x.letGo(), NOT);
         due("run(1)", x.run(1), 1);
-        due("the next round has number 1", x.record(3, 3), 1);
+        due("in the record it counts as one, so the next has number 1", x.record(3, 3), 1);
+        due("one ROUND", x.told(6), 1);
     }
 
     private static void promise8AllOfOnePart() {
@@ -359,7 +360,7 @@ public final class RunsTest {
     private static void promise9Limit() {
         SafeParts x = threeChains(2);
         due("400 of both", x.finish(), 200);
-        due("rounds and let go", x.told(6), 400);
+        due("rounds", x.told(6), 200);
         due("let go", x.told(7), 200);
         due("one is left", x.told(3), 1);
         due("told(9)", x.told(9), 6000);
@@ -375,7 +376,7 @@ public final class RunsTest {
         SafeParts x = threeChains(3);
         x.event(2, 0, 0);
         due("one more, one let go less", x.finish(), 200);
-        due("rounds and let go", x.told(6), 400);
+        due("rounds", x.told(6), 201);
         due("no LET GO behind the 400th", x.told(7), 199);
     }
 

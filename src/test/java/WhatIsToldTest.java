@@ -10,12 +10,14 @@ public final class WhatIsToldTest {
 
     public static void main(String[] args) {
         promise10Told();
+        promise10RoundsAndLetGoApart();
         promise10RingWithoutPromise();
         promise11Part();
         promise11ChannelWaitedFor();
         promise12ChannelOf();
         promise13Between();
         promise14Record();
+        promise14LetGoCountsAsARound();
         promise15Ring();
         promise16Waits();
         promise17InOrder();
@@ -48,12 +50,12 @@ public final class WhatIsToldTest {
         // Part 0 worked on 4; its letter of 9 waits with 4 and 6 of part 1, for channel 1.
         toldIs(x, "behind the round", new int[] {3, 2, 1, 3, 1, 0, 2, 0, 0, 4, 1, 0, 3});
         x.letGo();
-        toldIs(x, "behind let go", new int[] {3, 2, 1, 2, 2, 0, 3, 1, 0, 6, 2, 0, 3});
+        toldIs(x, "behind let go", new int[] {3, 2, 1, 2, 2, 0, 2, 1, 0, 6, 2, 0, 3});
         x.form(0);
         x.run(1);
-        toldIs(x, "behind empty letters", new int[] {3, 2, 0, 2, 2, 2, 4, 1, 2, 6, 2, 0, 3});
+        toldIs(x, "behind empty letters", new int[] {3, 2, 0, 2, 2, 2, 3, 1, 2, 6, 2, 0, 3});
         x.finish();
-        toldIs(x, "in the end", new int[] {3, 2, 0, 0, 4, 2, 6, 1, 0, NEVER, 4, 0, 3});
+        toldIs(x, "in the end", new int[] {3, 2, 0, 0, 4, 2, 5, 1, 0, NEVER, 4, 0, 3});
         for (int what : new int[] {MIN, -1, 13, MAX}) {
             due("told(" + what + ")", x.told(what), OUTSIDE);
         }
@@ -63,6 +65,24 @@ public final class WhatIsToldTest {
         for (int what = 0; what < want.length; what++) {
             due(when + ": told(" + what + ")", x.told(what), want[what]);
         }
+    }
+
+    private static void promise10RoundsAndLetGoApart() {
+        SafeParts x = new SafeParts();
+        x.parts(5);
+        x.form(1);
+        x.event(2, 0, 0);
+        x.channel(0, 2, 0, 1);
+        x.keep(0);
+        due("finish", x.finish(), 1);
+        due("the one that was STILL", x.told(6), 1);
+        due("it was LET GO behind it", x.told(7), 1);
+        x.goBack(0);
+        due("no ROUND as it was kept", x.told(6), 0);
+        due("not LET GO as it was kept", x.told(7), 0);
+        due("T", x.letGo(), 0);
+        due("no ROUND by letGo", x.told(6), 0);
+        due("LET GO once", x.told(7), 1);
     }
 
     private static void promise10RingWithoutPromise() {
@@ -183,6 +203,25 @@ public final class WhatIsToldTest {
         for (int what : new int[] {MIN, -1, 4, MAX}) {
             due("record(0, " + what + ")", x.record(0, what), OUTSIDE);
         }
+    }
+
+    private static void promise14LetGoCountsAsARound() {
+        SafeParts x = new SafeParts();
+        x.parts(3);
+        x.channel(0, 1, 0, 1);
+        x.form(1);
+        x.event(1, 3, 0);
+        x.event(1, 5, 0);
+        x.event(2, 1, 0);
+        x.event(2, 2, 0);
+        due("finish", x.finish(), 4);
+        // Part 2 works in 0 and 1; 2 is STILL, 3 lets 3 go, 4 is STILL, 5 lets 5 go.
+        int[] round = {0, 1, 3, 5};
+        for (int k = 0; k < round.length; k++) {
+            due("ROUND of entry " + k, x.record(k, 3), round[k]);
+        }
+        due("ROUNDS", x.told(6), 4);
+        due("LET GO", x.told(7), 2);
     }
 
     private static void promise15Ring() {
