@@ -3,11 +3,18 @@ final class Check {
     private static final int MOST_PRINTED = 40;
 
     private final String test;
+    private String words = "";
     private int asked;
     private int wrong;
 
     Check(String test) {
         this.test = test;
+    }
+
+    /** The words of the document that the answers from here on are about; they must stand there. */
+    void says(String words) {
+        this.words = " [" + words + "]";
+        holds("the document says this", Document.says(words));
     }
 
     void due(String call, int got, int want) {
@@ -17,7 +24,7 @@ final class Check {
         }
         wrong++;
         if (wrong <= MOST_PRINTED) {
-            System.out.println(test + ": " + call + " answered " + got + ", due is " + want);
+            System.out.println(test + words + ": " + call + " answered " + got + ", due is " + want);
         }
     }
 

