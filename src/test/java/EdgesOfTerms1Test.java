@@ -70,6 +70,7 @@ public final class EdgesOfTerms1Test {
         orderOfLettersByChannel();
         orderAsTheyCameByHand();
         orderAsTheyCameByLetter();
+        orderStaysWhenTheFirstIsGone();
     }
 
     private static void says(String words) {
@@ -598,6 +599,18 @@ public final class EdgesOfTerms1Test {
         x.run(3);
         x.letGo();
         recordIs(x, 3, new int[] {5, 5, 5}, new int[] {9, 29, 19});
+    }
+
+    private static void orderStaysWhenTheFirstIsGone() {
+        says("by time; then told by hand ahead of LETTERS; LETTERS by CHANNEL; then as they came");
+        SafeParts x = Make.letterByTheLaterChannel();
+        due("the LETTER is the first", x.part(2, 6), 19);
+        x.event(2, 10, 50);
+        due("10 by hand is the first", x.part(2, 6), 50);
+        x.event(0, 6, 30);
+        due("a LETTER of 10 by CHANNEL 0", x.run(1), 1);
+        due("T", x.letGo(), 10);
+        recordIs(x, 2, new int[] {6, 10, 10, 10}, new int[] {30, 50, 29, 19});
     }
 
     private static void recordIs(SafeParts x, int from, int[] time, int[] value) {

@@ -55,6 +55,7 @@ public final class EdgesOfTerms2Test {
         askedByWhoWaits();
         askedOfTheLeastClock();
         askedOfTheLeastNumber();
+        askedAnewAheadOfEachChannel();
     }
 
     private static void still() {
@@ -543,6 +544,28 @@ public final class EdgesOfTerms2Test {
         due("not by CHANNEL 1, though PART 0 is the first", x.channelOf(1, 4), 0);
     }
 
+    /** Behind the EMPTY LETTER by CHANNEL 0 the least CLOCK is that of CHANNEL 1, and its turn is still to come. */
+    private static void askedAnewAheadOfEachChannel() {
+        says("only by that of the least CLOCK of those to it");
+        SafeParts x = Make.parts(4);
+        for (int p = 0; p < 3; p++) {
+            x.channel(p, 3, 3, 3);
+            x.event(p, 10, 0);
+            x.event(p, 20 + 10 * p, 0);
+        }
+        x.form(2);
+        x.event(3, 32, 0);
+        due("run(1)", x.run(1), 3);
+        int[] clock = {23, 33, 43};
+        for (int c = 0; c < 3; c++) {
+            due("CLOCK of CHANNEL " + c, x.channelOf(c, 4), clock[c]);
+        }
+        due("three went", x.told(5), 3);
+        x.run(1);
+        due("CHANNEL 0 was the least", x.channelOf(0, 4), NEVER);
+        due("now 32 is less than 33: no more", x.told(5), 4);
+    }
+
     // ---- STILL
 
     private static void stillNoPartWorked() {
@@ -612,6 +635,13 @@ public final class EdgesOfTerms2Test {
         due("of PART 2", x.part(2, 0), 2);
         due("none is left", x.told(3), 0);
         due("all in one", x.record(29, 3), 0);
+        SafeParts y = Make.ring(2, 0, 9);
+        for (int k = 0; k < 30; k++) {
+            y.event(1, 5, k);
+        }
+        due("T", y.letGo(), 5);
+        due("30 of one PART", y.part(1, 0), 30);
+        due("value of the last", y.record(29, 2), 29);
     }
 
     private static void letGoNoneOfTheNextTime() {

@@ -22,6 +22,7 @@ public final class EdgesOfTerms3Test {
         inOrderLeastTime();
         inOrderLeastPart();
         inOrderOfThePart();
+        inOrderOfThePartFromNow();
         inOrderFirst300();
         inOrderLeastPartAt300();
         inOrderOfThePartAt300();
@@ -37,6 +38,7 @@ public final class EdgesOfTerms3Test {
 
     private static void lots() {
         lotsAsTold();
+        lotsPartBounds();
         lotsTimeBounds();
         lotsValueBounds();
         lotsFromNow();
@@ -48,7 +50,10 @@ public final class EdgesOfTerms3Test {
 
     private static void images() {
         imagesZeroAndOne();
-        imagesKeepAll();
+        imagesKeepWhatThereIs();
+        imagesKeepWhatWasRun();
+        imagesKeepChannels();
+        imagesKeepTheOrder();
         imagesKeepNoRecord();
     }
 
@@ -93,6 +98,16 @@ public final class EdgesOfTerms3Test {
         x.event(0, 5, 2);
         x.event(0, 4, 0);
         due("4, 5 (9), 5 (2)", x.inOrder(0, 1), 31 * (31 * 4 + 14) + 7);
+    }
+
+    /** The LETTER by CHANNEL 1 waits already, that by CHANNEL 0 is still to come. */
+    private static void inOrderOfThePartFromNow() {
+        says("then in its order");
+        SafeParts x = Make.letterByTheLaterChannel();
+        x.event(0, 6, 30);
+        due("5 (60), 10 (29), 10 (19)", x.inOrder(2, 1), 31 * (31 * 65 + 39) + 29);
+        x.event(2, 10, 50);
+        due("10 by hand ahead of them", x.inOrder(2, 1), (31 * (31 * (31 * 65 + 60) + 39) + 29) % 1000003);
     }
 
     private static void inOrderFirst300() {
@@ -254,25 +269,36 @@ public final class EdgesOfTerms3Test {
         }
     }
 
-    /** The least SEED whose number, the second or the third of three, is as wanted. */
-    private static int seedOf(boolean isTime, int by, int want) {
+    /** The least SEED whose number at a place (the PART, the time, the value), left over by one, is as wanted. */
+    private static int seedOf(int place, int by, int want) {
         for (int seed = 1; seed < 999999; seed++) {
             Lots lots = new Lots(seed);
-            lots.next(1);
-            int time = lots.next(isTime ? by : 50);
-            int got = isTime ? time : lots.next(by);
-            if (got == want) {
+            for (int k = 0; k < place; k++) {
+                lots.next(1);
+            }
+            if (lots.next(by) == want) {
                 return seed;
             }
         }
         return 0;
     }
 
+    private static void lotsPartBounds() {
+        says("PART X left over by how many there are");
+        for (int parts = 1; parts <= 6; parts++) {
+            for (int p : new int[] {0, parts - 1}) {
+                SafeParts x = Make.parts(parts);
+                due("one comes", x.drift(1, seedOf(0, parts, p)), 1);
+                due("of PART " + p + " of " + parts, x.part(p, 4), 1);
+            }
+        }
+    }
+
     private static void lotsTimeBounds() {
         says("time NOW of that PART and 1 and X left over by 50");
         for (int left : new int[] {0, 1, 48, 49}) {
             SafeParts x = Make.parts(1);
-            due("one comes", x.drift(1, seedOf(true, 50, left)), 1);
+            due("one comes", x.drift(1, seedOf(1, 50, left)), 1);
             due("left over " + left, x.part(0, 5), 1 + left);
         }
     }
@@ -281,7 +307,7 @@ public final class EdgesOfTerms3Test {
         says("value X left over by 20");
         for (int left : new int[] {0, 1, 18, 19}) {
             SafeParts x = Make.parts(1);
-            due("one comes", x.drift(1, seedOf(false, 20, left)), 1);
+            due("one comes", x.drift(1, seedOf(2, 20, left)), 1);
             due("left over " + left, x.part(0, 6), left);
         }
     }
@@ -291,9 +317,9 @@ public final class EdgesOfTerms3Test {
         SafeParts x = Make.parts(1);
         x.event(0, 700, 0);
         x.run(1);
-        due("one comes", x.drift(1, seedOf(true, 50, 0)), 1);
+        due("one comes", x.drift(1, seedOf(1, 50, 0)), 1);
         due("the least", x.part(0, 5), 701);
-        due("one comes", x.drift(1, seedOf(true, 50, 49)), 1);
+        due("one comes", x.drift(1, seedOf(1, 50, 49)), 1);
         x.run(1);
         due("the most", x.part(0, 5), 750);
     }
@@ -306,7 +332,7 @@ public final class EdgesOfTerms3Test {
             x.event(0, row[0], 0);
             x.run(1);
             String what = "NOW " + row[0] + ", left over " + row[1];
-            due(what, x.drift(1, seedOf(true, 50, row[1])), row[2]);
+            due(what, x.drift(1, seedOf(1, 50, row[1])), row[2]);
             due(what + ": EVENTS", x.told(3), row[2]);
             due(what + ": EVENTS by hand", x.told(12), 1 + row[2]);
         }
@@ -395,8 +421,7 @@ public final class EdgesOfTerms3Test {
         due("IMAGE 0 again", x.told(3), 0);
     }
 
-    /** Every number that some call tells is another one behind the IMAGE, and the old one again behind goBack. */
-    private static void imagesKeepAll() {
+    private static void imagesKeepWhatThereIs() {
         says("IMAGES 0, 1 keep all but THE RECORD.");
         for (int i = 0; i < 2; i++) {
             SafeParts x = Make.parts(3);
@@ -412,14 +437,87 @@ public final class EdgesOfTerms3Test {
             x.finish();
             x.form(2);
             x.event(0, 900, 1);
-            int[] behind = numbersOf(x);
             due("goBack(" + i + ")", x.goBack(i), 1);
-            int[] got = numbersOf(x);
-            for (int k = 0; k < want.length; k++) {
-                due("number " + k, got[k], want[k]);
-            }
-            CHECK.holds("they were others between", behind[1] != want[1] && behind[2] != want[2] && behind[4] != want[4]);
+            same(numbersOf(x), want);
             due("a CHANNEL may come again", x.channel(2, 0, 1, 1), 2);
+        }
+    }
+
+    /** Every number that is counted is another one behind the IMAGE, and the old one again behind goBack. */
+    private static void imagesKeepWhatWasRun() {
+        says("IMAGES 0, 1 keep all but THE RECORD.");
+        for (int i = 0; i < 2; i++) {
+            SafeParts x = Make.ring(3, 2, 3);
+            x.event(0, 4, 20);
+            x.event(1, 4, 19);
+            x.event(2, 3, 18);
+            x.letGo();
+            x.run(6);
+            int[] want = numbersOf(x);
+            x.keep(i);
+            x.event(0, 9000, 1);
+            x.run(12);
+            x.form(1);
+            x.run(40);
+            x.letGo();
+            int[] between = numbersOf(x);
+            for (int what : new int[] {2, 3, 4, 5, 6, 7, 9}) {
+                CHECK.holds("told(" + what + ") was another one", between[what] != want[what]);
+            }
+            for (int c = 0; c < 3; c++) {
+                for (int what = 4; what < 7; what++) {
+                    int at = 12 + 3 * 12 + 7 * c + what;
+                    CHECK.holds("channelOf(" + c + ", " + what + ") was another one", between[at] != want[at]);
+                }
+            }
+            due("goBack(" + i + ")", x.goBack(i), 1);
+            same(numbersOf(x), want);
+        }
+    }
+
+    /** CHANNEL 2 is another one in each IMAGE. */
+    private static void imagesKeepChannels() {
+        says("IMAGES 0, 1 keep all but THE RECORD.");
+        SafeParts x = Make.parts(3);
+        x.channel(0, 1, 2, 5);
+        x.channel(1, 2, 3, 4);
+        int[][] rows = {{2, 0, 7, 8, 0, 0, 0}, {1, 0, 0, 9, 0, 0, 0}};
+        x.keep(0);
+        x.channel(2, 0, 7, 8);
+        x.keep(1);
+        x.goBack(0);
+        due("two", x.told(1), 2);
+        due("CHANNEL 2 anew", x.channel(1, 0, 0, 9), 2);
+        x.keep(0);
+        for (int i = 1; i >= 0; i--) {
+            x.goBack(i);
+            for (int what = 0; what < 7; what++) {
+                due("IMAGE " + i + ": channelOf(2, " + what + ")", x.channelOf(2, what), rows[1 - i][what]);
+            }
+        }
+    }
+
+    /** 10 by hand comes ahead of the LETTER that waits, also behind goBack. */
+    private static void imagesKeepTheOrder() {
+        says("IMAGES 0, 1 keep all but THE RECORD.");
+        SafeParts x = Make.letterByTheLaterChannel();
+        x.keep(0);
+        x.event(2, 10, 50);
+        x.goBack(0);
+        due("the LETTER alone", x.part(2, 6), 19);
+        x.event(2, 10, 51);
+        due("by hand is the first", x.part(2, 6), 51);
+        x.event(0, 6, 30);
+        x.finish();
+        int[] value = {20, 60, 30, 51, 29, 19};
+        for (int k = 0; k < value.length; k++) {
+            due("value of entry " + k, x.record(k, 2), value[k]);
+        }
+    }
+
+    private static void same(int[] got, int[] want) {
+        for (int k = 0; k < want.length; k++) {
+            due("number " + k, got[k], want[k]);
         }
     }
 

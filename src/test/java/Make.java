@@ -53,4 +53,20 @@ final class Make {
         }
         return x;
     }
+
+    /**
+     * PART 2 worked on 5 (value 60), and a LETTER of 10 (value 19) by CHANNEL 1 waits there. One of 10 may
+     * still come by hand, and by CHANNEL 0: from an EVENT of 6 of PART 0.
+     */
+    static SafeParts letterByTheLaterChannel() {
+        SafeParts x = parts(3);
+        x.channel(0, 2, 1, 4);
+        x.channel(1, 2, 1, 10);
+        x.form(1);
+        x.event(2, 5, 60);
+        x.event(1, 0, 20);
+        x.run(1);
+        x.letGo();
+        return x;
+    }
 }

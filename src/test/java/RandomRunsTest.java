@@ -1,14 +1,14 @@
 import java.util.Random;
 
-/** Runs of 512 calls by lots, each answer against that of the Model. */
+/** Runs of 512 calls together, by lots, each answer against that of the Model. */
 public final class RandomRunsTest {
     private static final int RUNS = 250;
-    private static final int CALLS = 512;
+    private static final int NUMBERS_TOLD = 13;
+
+    /** What is told in the end counts, too: behind 512 calls every answer is free. */
+    private static final int CALLS = 512 - NUMBERS_TOLD;
     private static final int[] STRANGE = {Integer.MIN_VALUE, Integer.MIN_VALUE + 1, -1000000001, -100, -2, -1, 0, 1, 2, 6, 7,
         11, 12, 13, 30, 31, 40, 41, 99, 100, 200, 9999, 10000, 999999, 1000000, 99999999, Integer.MAX_VALUE};
-    private static final String[] NAME = {"parts", "channel", "event", "form", "drift", "run", "letGo", "finish", "told", "part",
-        "channelOf", "between", "record", "ring", "waits", "inOrder", "keep", "goBack"};
-    private static final int[] TAKES = {1, 4, 3, 1, 2, 1, 0, 0, 1, 2, 2, 2, 2, 1, 1, 2, 1, 1};
 
     /** How often each call comes, of all of these together. */
     private static final int[] OFTEN = {1, 20, 35, 5, 4, 14, 12, 2, 40, 50, 40, 8, 40, 10, 16, 6, 5, 5};
@@ -33,11 +33,11 @@ public final class RandomRunsTest {
             // No CHANNEL comes behind a ROUND, so many are tried as soon as there are PARTS.
             channelsFirst = which == 0 ? random.nextInt(50) : channelsFirst - 1;
             int[] a = arguments(random, which, times, promises);
-            check.due("seed " + seed + ", call " + k + ": " + text(which, a), call(x, which, a), model.call(which, a));
+            check.due("seed " + seed + ", call " + k + ": " + Calls.text(which, a), Calls.call(x, which, a), model.call(which, a));
         }
-        for (int what = 0; what <= 12; what++) {
+        for (int what = 0; what < NUMBERS_TOLD; what++) {
             int[] a = {what};
-            check.due("seed " + seed + ", in the end: " + text(8, a), call(x, 8, a), model.call(8, a));
+            check.due("seed " + seed + ", in the end: told(" + what + ")", x.told(what), model.call(Calls.TOLD, a));
         }
     }
 
@@ -56,7 +56,7 @@ public final class RandomRunsTest {
     }
 
     private static int[] arguments(Random random, int which, int times, int promises) {
-        int[] a = new int[TAKES[which]];
+        int[] a = new int[Calls.takes(which)];
         for (int k = 0; k < a.length; k++) {
             a[k] = ordinary(random, which, k, times, promises);
         }
@@ -84,37 +84,6 @@ public final class RandomRunsTest {
             case 15: return random.nextInt(place == 0 ? 6 : 2);
             case 16: case 17: return random.nextInt(2);
             default: return random.nextInt(6);
-        }
-    }
-
-    private static String text(int which, int[] a) {
-        StringBuilder text = new StringBuilder(NAME[which]).append('(');
-        for (int k = 0; k < a.length; k++) {
-            text.append(k == 0 ? "" : ", ").append(a[k]);
-        }
-        return text.append(')').toString();
-    }
-
-    private static int call(SafeParts x, int which, int[] a) {
-        switch (which) {
-            case 0: return x.parts(a[0]);
-            case 1: return x.channel(a[0], a[1], a[2], a[3]);
-            case 2: return x.event(a[0], a[1], a[2]);
-            case 3: return x.form(a[0]);
-            case 4: return x.drift(a[0], a[1]);
-            case 5: return x.run(a[0]);
-            case 6: return x.letGo();
-            case 7: return x.finish();
-            case 8: return x.told(a[0]);
-            case 9: return x.part(a[0], a[1]);
-            case 10: return x.channelOf(a[0], a[1]);
-            case 11: return x.between(a[0], a[1]);
-            case 12: return x.record(a[0], a[1]);
-            case 13: return x.ring(a[0]);
-            case 14: return x.waits(a[0]);
-            case 15: return x.inOrder(a[0], a[1]);
-            case 16: return x.keep(a[0]);
-            default: return x.goBack(a[0]);
         }
     }
 }

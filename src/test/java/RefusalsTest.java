@@ -27,7 +27,8 @@ public final class RefusalsTest {
     // ---- the order
 
     private static void order() {
-        CHECK.says("REFUSALS, of several the first in this order: UNKNOWN");
+        CHECK.says("REFUSALS, of several the first in this order: UNKNOWN (a PART, CHANNEL, IMAGE that there is not; "
+            + "one twice, where two are asked), OUTSIDE (another number out of its bounds), NOT (not now, as told), FULL.");
         orderOfChannelUnknown();
         orderOfChannelOutside();
         orderOfChannelNot();
