@@ -13,6 +13,19 @@ final class Calls {
         return TAKES[which];
     }
 
+    static String name(int which) {
+        return NAME[which];
+    }
+
+    /** The place of a call in the face; HOW_MANY: there is none of that name. */
+    static int byName(String name) {
+        int which = 0;
+        while (which < HOW_MANY && !NAME[which].equals(name)) {
+            which++;
+        }
+        return which;
+    }
+
     static String text(int which, int[] a) {
         StringBuilder text = new StringBuilder(NAME[which]).append('(');
         for (int k = 0; k < a.length; k++) {

@@ -8,6 +8,7 @@ import java.nio.file.Path;
 import java.util.ArrayList;
 import java.util.List;
 import java.util.TreeSet;
+import java.util.regex.Matcher;
 import java.util.regex.Pattern;
 
 /** The public face, and what a text can tell of the rules of LANGUAGE.md. Run it in the project's folder. */
@@ -17,6 +18,7 @@ public final class FaceTest {
     private static final String[] FORBIDDEN = {"\\bthrow\\b", "\\btry\\b", "\\bcatch\\b", "\\bsynchronized\\b", "\\bassert\\b",
         "->", "::", "Exact\\b", "\\bimport\\b", "\\bpackage\\b", "System\\.(?!arraycopy)", "\\bprotected\\b", "\\bvolatile\\b",
         "\\bThread\\b", "\\bObject\\b", "static\\s*\\{"};
+    private static final int MOST_LINES = 60;
     private static final Check CHECK = new Check("FaceTest");
 
     public static void main(String[] args) throws IOException {
@@ -24,7 +26,11 @@ public final class FaceTest {
         theConstants();
         theMethods();
         theClassesInside();
-        theText();
+        String text = Files.readString(Path.of("src", "main", "java", "SafeParts.java"));
+        theText(text);
+        theDocumentsFace(text.replaceAll("\\s+", " "));
+        theCallsByTheirHeadings(text);
+        theMethodsAreShort(text);
         CHECK.end();
     }
 
@@ -88,8 +94,7 @@ public final class FaceTest {
         }
     }
 
-    private static void theText() throws IOException {
-        String text = Files.readString(Path.of("src", "main", "java", "SafeParts.java"));
+    private static void theText(String text) {
         for (int k = 0; k < text.length(); k++) {
             CHECK.holds("sign " + k + " is plain", text.charAt(k) < 127);
         }
@@ -98,6 +103,49 @@ public final class FaceTest {
             CHECK.holds("the code has no " + word, !Pattern.compile(word).matcher(code).find());
         }
         nothingIsMadeByCalls(code);
+    }
+
+    /** Every member that the document writes out stands in the class in the same words. */
+    private static void theDocumentsFace(String words) {
+        Matcher face = Pattern.compile("```java public final class SafeParts \\{ (.*?) \\} ```").matcher(Document.text());
+        boolean found = face.find();
+        CHECK.holds("the document has a face", found || Document.text().isEmpty());
+        if (!found) {
+            return;
+        }
+        String[] members = face.group(1).split("; ?");
+        CHECK.due("members of the document's face", members.length, 2 + METHODS.length);
+        for (String member : members) {
+            CHECK.holds("the class has " + member, words.contains(member + (member.endsWith(")") ? " {" : ";")));
+        }
+    }
+
+    /** "Ahead of the calls .. the interface says: ---- ..": each call stands behind its heading, ahead of the next. */
+    private static void theCallsByTheirHeadings(String text) {
+        Matcher heading = Pattern.compile("Ahead of the calls ([^:]*) the interface says: (---- [a-z ]+)\\.").matcher(Document.text());
+        int headings = 0;
+        while (heading.find()) {
+            headings++;
+            int from = text.indexOf("// " + heading.group(2) + "\n");
+            int to = text.indexOf("// ----", from + 1);
+            for (String name : heading.group(1).split("[`, ]+")) {
+                int at = text.indexOf("public int " + name + "(");
+                CHECK.holds(name + " stands behind " + heading.group(2), name.isEmpty() || from >= 0 && from < at && at < to);
+            }
+        }
+        CHECK.holds("four headings", headings == 4 || Document.text().isEmpty());
+    }
+
+    /** From a line that opens a method to the one that closes it, by how far they stand from the edge. */
+    private static void theMethodsAreShort(String text) {
+        Matcher method = Pattern.compile("(?m)^((?:    ){1,2})(?! )[^/*\n]*\\) \\{\n((?:.*\n)*?)\\1\\}\n").matcher(text);
+        int methods = 0;
+        while (method.find()) {
+            methods++;
+            long lines = method.group(2).lines().count();
+            CHECK.holds(lines + " lines: " + method.group().lines().findFirst().orElse(""), lines <= MOST_LINES);
+        }
+        CHECK.holds("methods were found", methods > METHODS.length);
     }
 
     private static String withoutComments(String text) {
