@@ -102,8 +102,10 @@ public final class WhatItIsTest {
 
     private static void nothingComesAhead(int seed) {
         says("a part works only on what nothing can come ahead of any more");
+        Random random = new Random(seed);
         SafeParts x = worldToRun(seed, seed % 3);
         for (int k = 0; k < STEPS; k++) {
+            x.event(random.nextInt(x.told(0)), random.nextInt(60), random.nextInt(21));
             oneStep(x, k);
             for (int p = 0; p < x.told(0); p++) {
                 boolean hasComeAhead = x.part(p, 0) > 0 && x.part(p, 5) < x.part(p, 2);
@@ -231,18 +233,22 @@ public final class WhatItIsTest {
         }
     }
 
-    /** Whatever FORM comes next, what is worked on does not change how all would come out. */
+    /** Whatever FORM comes next, and whatever is told late, what is worked on does not change how all would come out. */
     private static void theSameAllAlong(int seed) {
         says("how all would come out one by one in the order of times, which is the same");
+        Random random = new Random(seed);
         SafeParts x = worldToRun(seed, seed % 3);
         boolean hasRing = x.told(11) == 1;
-        int[] want = inOrder(x);
         for (int k = 0; k < STEPS; k++) {
-            x.form(hasRing ? 1 : (seed + k) % 3);
+            int form = hasRing ? 1 : (seed + k) % 3;
+            x.form(form);
+            int p = random.nextInt(x.told(0));
+            x.event(p, x.part(p, 2) + random.nextInt(8), random.nextInt(6));
+            int[] want = inOrder(x);
             oneStep(x, k);
             int[] got = inOrder(x);
             for (int n = 0; n < want.length; n++) {
-                due(of(seed, x.told(2)) + ", step " + k + ": inOrder(" + n / 2 + ", " + n % 2 + ")", got[n], want[n]);
+                due(of(seed, form) + ", step " + k + ": inOrder(" + n / 2 + ", " + n % 2 + ")", got[n], want[n]);
             }
         }
     }
@@ -275,28 +281,43 @@ public final class WhatItIsTest {
         CHECK.holds(of(seed, 0) + ": no ROUND that was not run", entries == 0 || x.record(entries - 1, 3) < x.told(6));
     }
 
-    /** In one ROUND no EMPTY LETTER goes as asked that would not have gone in FORM 0. */
+    /**
+     * In one ROUND no EMPTY LETTER goes as asked that would not have gone in FORM 0, and none to a PART without
+     * an EVENT.
+     */
     private static void thoseAskedForAlone(int seed) {
         says("letters without anything counted, those asked for alone");
         SafeParts x = world(seed, 0);
         if (x.told(11) == 1) {
             return;
         }
-        int[] ofAll = new int[x.told(1)];
-        for (int k = 0; k < STEPS; k++) {
+        int channels = x.told(1);
+        for (int k = 0; k < STEPS / 2; k++) {
+            int[] before = empties(x, channels);
             x.keep(0);
             x.form(0);
             x.run(1);
-            for (int c = 0; c < ofAll.length; c++) {
-                ofAll[c] = x.channelOf(c, 6);
-            }
+            int[] ofAll = empties(x, channels);
             x.goBack(0);
             x.form(2);
             x.run(1);
-            for (int c = 0; c < ofAll.length; c++) {
-                CHECK.holds(of(seed, 2) + ", step " + k + ": no more go by CHANNEL " + c, x.channelOf(c, 6) <= ofAll[c]);
+            int[] asked = empties(x, channels);
+            for (int c = 0; c < channels; c++) {
+                String here = of(seed, 2) + ", step " + k + ": ";
+                CHECK.holds(here + "no more go by CHANNEL " + c, asked[c] <= ofAll[c]);
+                boolean isAskedFor = x.part(x.channelOf(c, 1), 4) > 0;
+                CHECK.holds(here + "none goes unasked by CHANNEL " + c, asked[c] == before[c] || isAskedFor);
             }
         }
+    }
+
+    /** EMPTY LETTERS that went by each CHANNEL. */
+    private static int[] empties(SafeParts x, int channels) {
+        int[] all = new int[channels];
+        for (int c = 0; c < channels; c++) {
+            all[c] = x.channelOf(c, 6);
+        }
+        return all;
     }
 
     private static void takenBack(int seed) {
